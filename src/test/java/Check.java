@@ -1,0 +1,63 @@
+/** Counts what was checked, prints what was wrong, and ends the test with the exit code that is due. */
+final class Check {
+    private int done;
+    private int wrong;
+    private String about = "";
+
+    interface Call {
+        void make();
+    }
+
+    void about(String promise) {
+        about = promise;
+    }
+
+    void same(String what, long got, long due) {
+        done++;
+        if (got != due) {
+            fail(what + " answered " + got + ", due is " + due);
+        }
+    }
+
+    void fine(String what, Call call) {
+        raises(what, null, call);
+    }
+
+    void bad(String what, Call call) {
+        raises(what, IllegalArgumentException.class, call);
+    }
+
+    void out(String what, Call call) {
+        raises(what, IndexOutOfBoundsException.class, call);
+    }
+
+    /** The very class is compared: what the machine throws is often a class below the due one. */
+    void raises(String what, Class<? extends RuntimeException> due, Call call) {
+        done++;
+        Class<?> got = null;
+        try {
+            call.make();
+        } catch (RuntimeException e) {
+            got = e.getClass();
+        }
+        if (got != due) {
+            fail(what + " threw " + got + ", due is " + due);
+        }
+    }
+
+    void fail(String text) {
+        wrong++;
+        if (wrong <= 40) {
+            System.out.println(about + ": " + text);
+        }
+    }
+
+    boolean isClean() {
+        return wrong == 0;
+    }
+
+    void end() {
+        System.out.println(done + " checks, " + wrong + " wrong");
+        System.exit(wrong == 0 && done > 0 ? 0 : 1);
+    }
+}
