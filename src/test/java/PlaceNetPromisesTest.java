@@ -575,7 +575,6 @@ public final class PlaceNetPromisesTest {
         isIgnored("a referral to -1", 1, WAITS, 1, 0, 4, -1);
         isIgnored("any version", 0, UNDER_WAY, 5, -9);
         PlaceNet x = withReply();
-        int nonce = x.message(0, 0);
         x.repeat(0);
         x.run(1);
         isMessage("data", x, 1, 0, 1, 0x20000005, 0, 0, 0, DATA, 1);
@@ -588,7 +587,6 @@ public final class PlaceNetPromisesTest {
         x.run(2);
         check.same("no packet of that site", x.count(2), 2);
         check.same("and its packet waits", x.packet(2, 0), WAITS);
-        check.same("nonces differ", nonce == 0 ? 1 : 0, 0);
     }
 
     private static void promise8Data() {
@@ -915,41 +913,41 @@ public final class PlaceNetPromisesTest {
         notesMeet();
     }
 
-    /** Site 0 notes a piece of length 4 at place 1, by a reply that is forged so. */
-    private static void makeNote(PlaceNet x, int endpoint, int bits, int length) {
+    /** Site 0 notes a piece at place 1, by a reply that is forged so; k older messages stay. */
+    private static void makeNote(PlaceNet x, int k, int endpoint, int length) {
         x.send(0, endpoint);
-        x.run(1);
-        x.forge(0, 1, 1);
-        x.forge(0, 2, bits);
-        x.forge(0, 3, length);
-        x.forge(0, 4, 1);
-        x.run(1);
-        x.drop(0);
+        x.carry(k);
+        x.forge(k, 1, 1);
+        x.forge(k, 2, endpoint);
+        x.forge(k, 3, length);
+        x.forge(k, 4, 1);
+        x.carry(k);
+        x.drop(k);
     }
 
     private static void sixNotes() {
         PlaceNet x = new PlaceNet();
         x.site(0, 0);
         for (int i = 0; i < 6; i++) {
-            makeNote(x, i << 28, i << 28, 4);
+            makeNote(x, 0, i << 28, 4);
         }
         check.same("six", x.count(8), 6);
-        makeNote(x, 0x60000000, 0x60000000, 4);
+        makeNote(x, 0, 0x60000000, 4);
         check.same("still six", x.count(8), 6);
         check.same("the first made went", x.note(0, 0, 0), -1);
         check.same("the second not", x.note(0, 0x10000000, 0), 4);
-        makeNote(x, 0xF0000000, 0xF0000000, 4);
+        makeNote(x, 0, 0xF0000000, 4);
         check.same("then the second", x.note(0, 0x10000000, 0), -1);
         PlaceNet y = new PlaceNet();
         y.site(0, 0);
         makeNote(y, 0, 0, 4);
         y.pass(30);
         for (int i = 1; i < 6; i++) {
-            makeNote(y, i << 28, i << 28, 4);
+            makeNote(y, 0, i << 28, 4);
         }
         y.pass(30);
         check.same("one has gone", y.count(8), 5);
-        makeNote(y, 0x70000000, 0x70000000, 4);
+        makeNote(y, 0, 0x70000000, 4);
         check.same("so there was room", y.note(0, 0x10000000, 0), 4);
         check.same("for six", y.count(8), 6);
     }
@@ -960,7 +958,7 @@ public final class PlaceNetPromisesTest {
         x.site(1, 1);
         x.send(0, 0);
         for (int i = 0; i < 6; i++) {
-            makeSecond(x, i << 28, i << 28, 4);
+            makeNote(x, 1, i << 28, 4);
         }
         check.same("six", x.count(8), 6);
         x.carry(0);
@@ -982,18 +980,6 @@ public final class PlaceNetPromisesTest {
         y.run(2);
         check.same("one in it takes the outer one away", y.note(0, 5, 0), -1);
         check.same("and is there", y.note(0, 6, 0), 32);
-    }
-
-    /** Like makeNote, while an older message lies in the row. */
-    private static void makeSecond(PlaceNet x, int endpoint, int bits, int length) {
-        x.send(0, endpoint);
-        x.carry(1);
-        x.forge(1, 1, 1);
-        x.forge(1, 2, bits);
-        x.forge(1, 3, length);
-        x.forge(1, 4, 1);
-        x.carry(1);
-        x.drop(1);
     }
 
     private static void promise17() {
