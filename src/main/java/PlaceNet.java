@@ -34,6 +34,7 @@ public final class PlaceNet {
     private final int[] leaver;
     private final int[] leftAt;
     private final Row row;
+    // The message being carried, and the fields of one being sent: used again so that none is made.
     private final int[] hand;
     private final int[] draft;
     private final Packet[] packets;
