@@ -12,10 +12,26 @@ final class Check {
         about = promise;
     }
 
+    /** One sentence of the document; a call in it that throws unasked does not keep the others back. */
+    void sentence(String words, Call test) {
+        about(words);
+        try {
+            test.make();
+        } catch (RuntimeException e) {
+            fail("threw " + e + " at " + e.getStackTrace()[0]);
+        }
+    }
+
     void same(String what, long got, long due) {
         done++;
         if (got != due) {
             fail(what + " answered " + got + ", due is " + due);
+        }
+    }
+
+    void isMessage(String what, PlaceNet x, int k, int... due) {
+        for (int i = 0; i < 8; i++) {
+            same(what + ": message(" + k + ", " + i + ")", x.message(k, i), due[i]);
         }
     }
 

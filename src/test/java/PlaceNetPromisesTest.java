@@ -46,35 +46,6 @@ public final class PlaceNetPromisesTest {
         check.end();
     }
 
-    private static int nextDraw(int g) {
-        g = g ^ (g << 13);
-        g = g ^ (g >>> 17);
-        return g ^ (g << 5);
-    }
-
-    private static int tagOf(int site, int bits, int length, int place, int nonce) {
-        int h = (site + 1) * 40503;
-        for (int v : new int[] {site, bits, length, place, nonce}) {
-            h = (h ^ v) * 16777619;
-            h = h ^ (h >>> 15);
-        }
-        return h;
-    }
-
-    /** Makes the k-th message, a REGISTER, say this, with the right tag. */
-    private static void forgeRegister(PlaceNet x, int k, int... said) {
-        for (int i = 0; i < 5; i++) {
-            x.forge(k, i, said[i]);
-        }
-        x.forge(k, 5, tagOf(said[0], said[1], said[2], said[3], said[4]));
-    }
-
-    private static void isMessage(String what, PlaceNet x, int k, int... due) {
-        for (int i = 0; i < 8; i++) {
-            check.same(what + ": message(" + k + ", " + i + ")", x.message(k, i), due[i]);
-        }
-    }
-
     /** A site asks with a packet for the endpoint; the REPLY that comes is compared and dropped. */
     private static void isReply(String what, PlaceNet x, int s, int endpoint, int... due) {
         int p = x.send(s, endpoint);
@@ -227,15 +198,15 @@ public final class PlaceNetPromisesTest {
         x.prefix(2, 0x20000000, 4);
         x.prefix(2, -1, 32);
         check.same("three", x.register(2), 3);
-        isMessage("first", x, 0, 2, 0x12000000, 8, 9, 1, tagOf(2, 0x12000000, 8, 9, 1), REGISTER, 1);
-        isMessage("second", x, 1, 2, 0x20000000, 4, 9, 2, tagOf(2, 0x20000000, 4, 9, 2), REGISTER, 0);
-        isMessage("third", x, 2, 2, -1, 32, 9, 3, tagOf(2, -1, 32, 9, 3), REGISTER, 0);
+        check.isMessage("first", x, 0, 2, 0x12000000, 8, 9, 1, Calls.tagOf(2, 0x12000000, 8, 9, 1), REGISTER, 1);
+        check.isMessage("second", x, 1, 2, 0x20000000, 4, 9, 2, Calls.tagOf(2, 0x20000000, 4, 9, 2), REGISTER, 0);
+        check.isMessage("third", x, 2, 2, -1, 32, 9, 3, Calls.tagOf(2, -1, 32, 9, 3), REGISTER, 0);
         x.delegate(1, 3, 0x12340000, 16);
         x.delegate(0, 4, 0x20000000, 4);
         x.move(2, 4);
         check.same("one was torn by a delegation", x.register(2), 2);
-        isMessage("the child's now", x, 3, 2, 0x20000000, 4, 4, 4, tagOf(2, 0x20000000, 4, 4, 4), REGISTER, 4);
-        isMessage("no nonce was lost", x, 4, 2, -1, 32, 4, 5, tagOf(2, -1, 32, 4, 5), REGISTER, 0);
+        check.isMessage("the child's now", x, 3, 2, 0x20000000, 4, 4, 4, Calls.tagOf(2, 0x20000000, 4, 4, 4), REGISTER, 4);
+        check.isMessage("no nonce was lost", x, 4, 2, -1, 32, 4, 5, Calls.tagOf(2, -1, 32, 4, 5), REGISTER, 0);
         x.site(3, 3);
         x.prefix(3, 0x30000000, 8);
         x.register(3);
@@ -259,7 +230,7 @@ public final class PlaceNetPromisesTest {
 
     private static void isRefused(String what, int refused, int... said) {
         PlaceNet x = withRegister();
-        forgeRegister(x, 0, said);
+        Calls.forgeRegister(x, 0, said);
         x.carry(0);
         check.same(what + ": refused", x.count(1), refused);
         check.same(what + ": entries", x.count(7), 1 - refused);
@@ -303,7 +274,7 @@ public final class PlaceNetPromisesTest {
         x.carry(0);
         check.same("an older nonce later", x.count(1), 2);
         x.register(0);
-        forgeRegister(x, 0, 0, 0x10000000, 4, 0, 100);
+        Calls.forgeRegister(x, 0, 0, 0x10000000, 4, 0, 100);
         x.run(1);
         check.same("refused", x.count(1), 3);
         x.register(0);
@@ -315,7 +286,7 @@ public final class PlaceNetPromisesTest {
         x.carry(0);
         check.same("each server has its own", x.count(1), 3);
         x.register(0);
-        forgeRegister(x, 0, 1, 0x30000000, 8, 1, 1);
+        Calls.forgeRegister(x, 0, 1, 0x30000000, 8, 1, 1);
         x.run(1);
         check.same("each site's are its own", x.count(1), 3);
     }
@@ -325,26 +296,26 @@ public final class PlaceNetPromisesTest {
         PlaceNet x = withRegister();
         x.run(1);
         x.register(0);
-        forgeRegister(x, 0, 1, 0x20000000, 8, 1, 1);
+        Calls.forgeRegister(x, 0, 1, 0x20000000, 8, 1, 1);
         x.run(1);
         check.same("another site's", x.count(1), 1);
         check.same("it stays", x.truth(0x20000000), 0);
         x.pass(179);
         check.same("not lapsed at 179", x.count(7), 1);
         x.register(0);
-        forgeRegister(x, 0, 1, 0x20000000, 8, 1, 2);
+        Calls.forgeRegister(x, 0, 1, 0x20000000, 8, 1, 2);
         x.run(1);
         check.same("still another site's", x.count(1), 2);
         x.pass(1);
         check.same("lapsed at 180", x.count(7), 0);
         x.register(0);
-        forgeRegister(x, 0, 1, 0x20000000, 8, 1, 3);
+        Calls.forgeRegister(x, 0, 1, 0x20000000, 8, 1, 3);
         x.run(1);
         check.same("free when it lapsed", x.count(1), 2);
         check.same("the other site's now", x.truth(0x20000000), 1);
         x.pass(100);
         x.register(0);
-        forgeRegister(x, 0, 1, 0x20000000, 8, 5, 4);
+        Calls.forgeRegister(x, 0, 1, 0x20000000, 8, 5, 4);
         x.run(1);
         x.pass(179);
         check.same("made anew it lasts anew", x.count(7), 1);
@@ -358,29 +329,29 @@ public final class PlaceNetPromisesTest {
             x.repeat(0);
         }
         for (int i = 0; i < 16; i++) {
-            forgeRegister(x, 0, 0, 0x20000000 + (i << 16), 16, 0, i + 1);
+            Calls.forgeRegister(x, 0, 0, 0x20000000 + (i << 16), 16, 0, i + 1);
             x.run(1);
         }
         check.same("sixteen", x.count(7), 16);
         check.same("none refused", x.count(1), 0);
-        forgeRegister(x, 0, 0, 0x21000000, 16, 0, 17);
+        Calls.forgeRegister(x, 0, 0, 0x21000000, 16, 0, 17);
         x.run(1);
         check.same("the seventeenth", x.count(1), 1);
-        forgeRegister(x, 0, 0, 0x20070000, 16, 3, 17);
+        Calls.forgeRegister(x, 0, 0, 0x20070000, 16, 3, 17);
         x.run(1);
         check.same("one of the sixteen again", x.count(1), 1);
         x.pass(100);
-        forgeRegister(x, 0, 0, 0x20080000, 16, 3, 18);
+        Calls.forgeRegister(x, 0, 0, 0x20080000, 16, 3, 18);
         x.run(1);
         x.pass(80);
         check.same("fifteen lapsed", x.count(7), 1);
         for (int i = 0; i < 15; i++) {
-            forgeRegister(x, 0, 0, 0x30000000 + (i << 16), 16, 0, 19 + i);
+            Calls.forgeRegister(x, 0, 0, 0x30000000 + (i << 16), 16, 0, 19 + i);
             x.run(1);
         }
         check.same("lapsed ones don't count", x.count(7), 16);
         check.same("all were taken", x.count(1), 1);
-        forgeRegister(x, 0, 0, 0x31000000, 16, 0, 99);
+        Calls.forgeRegister(x, 0, 0, 0x31000000, 16, 0, 99);
         x.run(1);
         check.same("full again", x.count(1), 2);
         x.prefix(1, 0x10000000, 8);
@@ -404,11 +375,11 @@ public final class PlaceNetPromisesTest {
         check.same("no message", x.count(0), 0);
         check.same("second number", x.send(3, 0x21000000), 2);
         check.same("waits", x.packet(2, 0), WAITS);
-        int g = nextDraw(1);
-        isMessage("request", x, 0, 3, g, 0x21000000, 0, 0, 0, REQUEST, 0);
+        int g = Calls.nextDraw(1);
+        check.isMessage("request", x, 0, 3, g, 0x21000000, 0, 0, 0, REQUEST, 0);
         check.same("third number", x.send(3, -1), 3);
-        g = nextDraw(g);
-        isMessage("the next nonce", x, 1, 3, g, -1, 0, 0, 0, REQUEST, 0);
+        g = Calls.nextDraw(g);
+        check.isMessage("the next nonce", x, 1, 3, g, -1, 0, 0, 0, REQUEST, 0);
         x.run(4);
         check.same("a hole", x.packet(2, 0), UNREACHABLE);
         check.same("another hole", x.packet(3, 0), UNREACHABLE);
@@ -418,7 +389,7 @@ public final class PlaceNetPromisesTest {
         x.pass(60);
         x.send(3, 0x21000001);
         check.same("the note has gone", x.packet(5, 0), WAITS);
-        g = nextDraw(g);
+        g = Calls.nextDraw(g);
         check.same("no nonce was drawn between", x.message(0, 1), g);
     }
 
@@ -454,7 +425,7 @@ public final class PlaceNetPromisesTest {
         x.run(2);
         check.same("goes to the child", x.message(0, 7), 2);
         x.run(1);
-        isMessage("the whole part", x, 0, x.message(0, 0), 2, 0x84000000, 8, 0, 0, REPLY, 0);
+        check.isMessage("the whole part", x, 0, x.message(0, 0), 2, 0x84000000, 8, 0, 0, REPLY, 0);
         requests();
     }
 
@@ -577,7 +548,7 @@ public final class PlaceNetPromisesTest {
         PlaceNet x = withReply();
         x.repeat(0);
         x.run(1);
-        isMessage("data", x, 1, 0, 1, 0x20000005, 0, 0, 0, DATA, 1);
+        check.isMessage("data", x, 1, 0, 1, 0x20000005, 0, 0, 0, DATA, 1);
         x.run(1);
         check.same("it waits no more", x.count(2), 1);
         x.run(1);
@@ -607,7 +578,7 @@ public final class PlaceNetPromisesTest {
         x.run(1);
         check.same("another's endpoint", x.packet(1, 0), LOST);
         check.same("one solicit", x.count(3), 1);
-        isMessage("it", x, 2, 0x21000000, 1, 0, 0, 0, 0, SOLICIT, 0);
+        check.isMessage("it", x, 2, 0x21000000, 1, 0, 0, 0, 0, SOLICIT, 0);
         x.run(1);
         check.same("delivered, whatever it was", x.packet(1, 0), DELIVERED);
         x.forge(0, 2, 0x21000000);
@@ -628,8 +599,8 @@ public final class PlaceNetPromisesTest {
         x.pass(29);
         x.run(1);
         check.same("data goes on, then a solicit", x.count(0), 4);
-        isMessage("data", x, 2, 0, 1, 0x20000005, 0, 0, 0, DATA, 9);
-        isMessage("solicit", x, 3, 0x20000005, 1, 0, 0, 0, 0, SOLICIT, 0);
+        check.isMessage("data", x, 2, 0, 1, 0x20000005, 0, 0, 0, DATA, 9);
+        check.isMessage("solicit", x, 3, 0x20000005, 1, 0, 0, 0, 0, SOLICIT, 0);
         check.same("under way", x.packet(1, 0), UNDER_WAY);
         x.pass(1);
         x.run(1);
@@ -764,7 +735,7 @@ public final class PlaceNetPromisesTest {
         for (int i = 0; i < 6; i++) {
             x.forge(1, i, LOW + i);
         }
-        isMessage("forged", x, 1, LOW, LOW + 1, LOW + 2, LOW + 3, LOW + 4, LOW + 5, REQUEST, 0);
+        check.isMessage("forged", x, 1, LOW, LOW + 1, LOW + 2, LOW + 3, LOW + 4, LOW + 5, REQUEST, 0);
         check.same("the other is as it was", x.message(0, 1), 0x20000000);
         check.out("field -1", () -> x.forge(0, -1, 0));
         check.out("field 6", () -> x.forge(0, 6, 0));
@@ -778,7 +749,7 @@ public final class PlaceNetPromisesTest {
     private static void promise12() {
         check.about("promise 12");
         PlaceNet x = withRegister();
-        isMessage("register", x, 0, 0, 0x20000000, 8, 0, 1, tagOf(0, 0x20000000, 8, 0, 1), REGISTER, 0);
+        check.isMessage("register", x, 0, 0, 0x20000000, 8, 0, 1, Calls.tagOf(0, 0x20000000, 8, 0, 1), REGISTER, 0);
         check.out("what -1", () -> x.message(0, -1));
         check.out("what 8", () -> x.message(0, 8));
         check.out("extreme what", () -> x.message(0, LOW));
@@ -863,14 +834,14 @@ public final class PlaceNetPromisesTest {
         x.site(0, 0);
         x.delegate(0, 1, 0x40000000, 2);
         x.send(0, 0x40000000);
-        int g = nextDraw(1);
+        int g = Calls.nextDraw(1);
         for (int i = 1; i <= 8; i++) {
             x.run(1);
             check.same("nonce", x.message(0, 0), g);
             x.forge(0, 4, 0);
             x.run(1);
-            g = nextDraw(g);
-            isMessage("request", x, 0, 0, g, 0x40000000, 0, 0, 0, REQUEST, 0);
+            g = Calls.nextDraw(g);
+            check.isMessage("request", x, 0, 0, g, 0x40000000, 0, 0, 0, REQUEST, 0);
             check.same("so many", x.packet(1, 2), i);
             check.same("it waits", x.packet(1, 0), WAITS);
         }
@@ -879,7 +850,7 @@ public final class PlaceNetPromisesTest {
         check.same("nine", x.packet(1, 2), 9);
         check.same("no request", x.count(0), 0);
         x.send(0, 0);
-        check.same("no nonce either", x.message(0, 1), nextDraw(g));
+        check.same("no nonce either", x.message(0, 1), Calls.nextDraw(g));
     }
 
     private static void promise16() {
@@ -1002,7 +973,7 @@ public final class PlaceNetPromisesTest {
         x.pass(100);
         x.delegate(0, 1, 0x20000000, 12);
         x.register(1);
-        forgeRegister(x, 0, 0, 0x20000000, 16, 3, 50);
+        Calls.forgeRegister(x, 0, 0, 0x20000000, 16, 3, 50);
         x.run(1);
         check.same("two entries of one prefix", x.count(7), 4);
         check.same("the lowest server's", x.truth(0x20000100), 1);
