@@ -122,7 +122,7 @@ final class Model {
         }
     }
 
-    private Integer siteAtPlace(int place) {
+    Integer siteAtPlace(int place) {
         for (var e : sites.entrySet()) {
             if (e.getValue().place == place) {
                 return e.getKey();

@@ -19,7 +19,8 @@ public final class PlaceNetModelTest {
         {"send", "carry", "carry", "run", "forge", "move", "register", "pass"},
         {"send", "send", "run", "register", "goodRegister", "goodRegister", "pass", "move"},
         {"send", "send", "send", "send", "send", "run", "run", "pass"},
-        {"send", "carry", "badReply", "badReply", "run", "goodRegister", "run", "move"}};
+        {"send", "carry", "badReply", "badReply", "run", "goodRegister", "run", "move"},
+        {"send", "send", "register", "run", "referrals", "crowd", "solicitAgain", "move"}};
 
     private static final TreeMap<String, Integer> outcomes = new TreeMap<>();
 
@@ -164,6 +165,12 @@ public final class PlaceNetModelTest {
             planRegister();
         } else if (name.equals("badReply")) {
             planReply();
+        } else if (name.equals("referrals")) {
+            planReferrals();
+        } else if (name.equals("crowd")) {
+            planCrowd();
+        } else if (name.equals("solicitAgain")) {
+            planSolicit();
         } else {
             int[] args = arguments(name);
             if (random.nextInt(20) == 0) {
@@ -210,12 +217,18 @@ public final class PlaceNetModelTest {
         }
     }
 
-    /** Turns a REGISTER, if one lies there, into another one with a right tag, and carries it. */
-    private void planRegister() {
+    /** The oldest message of that kind; how many messages there are, if there is none. */
+    private int oldest(int kind) {
         int k = 0;
-        while (k < x.count(0) && x.message(k, 6) != 0) {
+        while (k < x.count(0) && x.message(k, 6) != kind) {
             k++;
         }
+        return k;
+    }
+
+    /** Turns a REGISTER, if one lies there, into another one with a right tag, and carries it. */
+    private void planRegister() {
+        int k = oldest(0);
         if (k >= x.count(0)) {
             planned.add(new Op("register", random.nextInt(8)));
             return;
@@ -225,6 +238,9 @@ public final class PlaceNetModelTest {
             p = new int[] {(9 << 28) + (random.nextInt(20) << 20), 12};
         }
         int nonce = random.nextInt(9) == 0 ? random.nextInt(40) - 3 : x.message(k, 4) + random.nextInt(2);
+        if (random.nextInt(25) == 0) {
+            nonce = random.nextInt(9) == 0 ? Integer.MAX_VALUE : Integer.MIN_VALUE;
+        }
         int[] said = {random.nextInt(4) == 0 ? random.nextInt(8) : x.message(k, 0), p[0], p[1], random.nextInt(17), nonce};
         for (int i = 0; i < 5; i++) {
             planned.add(new Op("forge", k, i, said[i]));
@@ -236,10 +252,7 @@ public final class PlaceNetModelTest {
 
     /** Turns a REPLY, if one lies there, into one with another sort, piece or value, and carries it. */
     private void planReply() {
-        int k = 0;
-        while (k < x.count(0) && x.message(k, 6) != 2) {
-            k++;
-        }
+        int k = oldest(2);
         if (k >= x.count(0)) {
             planned.add(new Op("run", 1));
             return;
@@ -256,5 +269,41 @@ public final class PlaceNetModelTest {
         planned.add(new Op("forge", k, 4, random.nextInt(10)));
         planned.add(new Op("forge", k, 5, random.nextInt(10)));
         planned.add(new Op("carry", k));
+    }
+
+    /** A new packet is referred to server 0 again and again, up to ten times. */
+    private void planReferrals() {
+        int k = x.count(0);
+        planned.add(new Op("send", random.nextInt(8), endpoint()));
+        for (int i = 8 + random.nextInt(3); i > 0; i--) {
+            planned.add(new Op("carry", k));
+            planned.add(new Op("forge", k, 1, 0));
+            planned.add(new Op("forge", k, 4, 0));
+            planned.add(new Op("carry", k));
+        }
+    }
+
+    /** Fills the row with a DATA, if one lies there, whose place is left before they are carried. */
+    private void planCrowd() {
+        int k = oldest(3);
+        if (k >= x.count(0)) {
+            planned.add(new Op("send", random.nextInt(8), endpoint()));
+            planned.add(new Op("run", 6));
+            return;
+        }
+        for (int i = x.count(0); i <= 200; i++) {
+            planned.add(new Op("repeat", k));
+        }
+        Integer host = model.siteAtPlace(x.message(k, 7));
+        if (host != null) {
+            planned.add(new Op("move", host, random.nextInt(16)));
+        }
+        planned.add(new Op("carry", k));
+        planned.add(new Op("run", 1000));
+    }
+
+    private void planSolicit() {
+        int k = oldest(4);
+        planned.add(k < x.count(0) ? new Op("repeat", k) : new Op("move", random.nextInt(8), random.nextInt(16)));
     }
 }
