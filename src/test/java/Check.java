@@ -29,6 +29,13 @@ final class Check {
         }
     }
 
+    void same(String what, String got, String due) {
+        done++;
+        if (!got.equals(due)) {
+            fail(what + " answered " + got + ", due is " + due);
+        }
+    }
+
     void isMessage(String what, PlaceNet x, int k, int... due) {
         for (int i = 0; i < 8; i++) {
             same(what + ": message(" + k + ", " + i + ")", x.message(k, i), due[i]);
