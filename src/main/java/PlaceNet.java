@@ -994,9 +994,10 @@ public final class PlaceNet {
                 lost++;
                 return;
             }
-            System.arraycopy(fields, 0, cells, cell(size), FIELDS);
-            set(size, KIND, kind);
-            set(size, TO, to);
+            int at = cell(size);
+            System.arraycopy(fields, 0, cells, at, FIELDS);
+            cells[at + KIND] = kind;
+            cells[at + TO] = to;
             size++;
         }
 
